@@ -1338,13 +1338,17 @@ public final class CampCards {
         }
 
         private void spendDay(int well, int[] begins) {
+            int lacking = 0;
             for (int i = 0; i < lined; i++) {
                 lineLack[i] = lineNeed[i];
                 lineHour[i] = NONE;
+                lacking += lineNeed[i];
             }
             int left = wellDepth[well];
-            for (int hour = earliest(begins); hour < HOURS && left > 0; hour++) {
-                left -= spendHour(hour, Math.min(left, wellYield[well]), begins);
+            for (int hour = earliest(begins); hour < HOURS && left > 0 && lacking > 0; hour++) {
+                int drawn = spendHour(hour, Math.min(left, wellYield[well]), begins);
+                left -= drawn;
+                lacking -= drawn;
             }
         }
 
