@@ -556,6 +556,9 @@ public final class CampCards {
 
     /** Cells, their heights, and what rain does on them. */
     private static final class Land {
+        /** The sides from the least cell beside to the greatest: of as low ones the first is the least. */
+        private static final int[] SIDES_BY_CELL = {3, 2, 0, 1};
+
         private final int[] heightOf;
         /** The least wall of a latrine on each cell, 0 without one: it is the one that overflows first. */
         private final int[] leastWall;
@@ -608,13 +611,9 @@ public final class CampCards {
         int lowestBeside(int cell) {
             int lowest = NONE;
             int height = heightOf[cell];
-            for (int side = 0; side < SIDES; side++) {
+            for (int side : SIDES_BY_CELL) {
                 int next = beside(cell, side);
-                if (next == NONE || heightOf[next] > height) {
-                    continue;
-                }
-                boolean sameButLess = lowest != NONE && heightOf[next] == height && next < lowest;
-                if (heightOf[next] < height || sameButLess) {
+                if (next != NONE && heightOf[next] < height) {
                     lowest = next;
                     height = heightOf[next];
                 }

@@ -88,6 +88,15 @@ public final class CampTest {
         Due.is("4: -1", camp.down(-1), -1);
         Due.is("4: refused", camp.total(11), 2);
         Due.is("4: edges", camp.down(143) + camp.down(132), -18);
+        camp = new CampCards();
+        camp.height(66, 49);
+        camp.height(77, 49);
+        Due.is("4: the least of two", camp.down(65), 66);
+        camp.height(65, 40);
+        camp.height(0, 0);
+        Due.is("4: the upper row", camp.down(12), 0);
+        camp.height(143, 1);
+        Due.is("4: the lower row", camp.down(131), 143);
     }
 
     private static void house() {

@@ -107,6 +107,16 @@ public final class FireTest {
         Due.is("31: 2, of several the least", camp.lanes(0, 2), 6);
         Due.is("31: 1", camp.lanes(0, 1), -9);
         Due.is("31: 30", camp.lanes(0, 30), 0);
+        CampCards small = new CampCards();
+        small.house(0, 0);
+        small.house(12, 0);
+        small.house(24, 0);
+        small.house(26, 0);
+        small.house(27, 0);
+        small.lane(1);
+        small.lane(3);
+        Due.is("31: all of them", small.lanes(1, 1), 3);
+        Due.is("31: the first of them", small.lanes(1, 2), 1);
         Due.is("31: WIND, ahead of -4", camp.lanes(4, 0), -2);
         Due.is("31: WIND below", camp.lanes(-1, 1), -2);
         Due.is("31: below", camp.lanes(0, 0), -4);

@@ -4,6 +4,7 @@ public final class RainTest {
         latrine();
         drain();
         flow();
+        flowFromHighest();
         foul();
         foulAtDrains();
         drains();
@@ -65,6 +66,23 @@ public final class RainTest {
         Due.is("26: above", camp.flow(0, 1000), -6);
         camp.drain(60);
         Due.is("26: no drains in it", camp.flow(61, 1), 6);
+    }
+
+    /** Cells 132 .. 137, with the greatest and the least heights. */
+    private static void flowFromHighest() {
+        CampCards camp = new CampCards();
+        int[] heights = {99, 98, 97, 2, 1, 0};
+        for (int x = 0; x < heights.length; x++) {
+            camp.height(132 + x, heights[x]);
+        }
+        for (int x = 0; x < 3; x++) {
+            camp.height(120 + x, 99);
+        }
+        // those over 132 .. 134 go the other way; those over 135 .. 137, and 138, come down to the row
+        int[] due = {1, 2, 3, 5, 7, 10};
+        for (int x = 0; x < due.length; x++) {
+            Due.is("26: from 99 to 0, " + x, camp.flow(132 + x, 1), due[x]);
+        }
     }
 
     private static void foul() {

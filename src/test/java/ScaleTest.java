@@ -95,6 +95,7 @@ public final class ScaleTest {
         Due.is("17: not so far", leanOf(9999, 9997), -9);
         Due.is("17: 2", leanOf(1000, 997), 2);
         Due.is("17: small", leanOf(3, 1), 1);
+        Due.is("17: thousandths", leanOf(9999, 8998), 100);
         Due.is("17: too small", leanOf(3, 0), -9);
     }
 
@@ -113,6 +114,9 @@ public final class ScaleTest {
         camp.person(1, -103, 1);
         Due.is("18: the least free one, though another would leave more", camp.pairs(0, 1), 1);
         Due.is("18: the other way", camp.pairs(1, 0), 1);
+        camp.person(1, -94, 1);
+        Due.is("18: 4 DAYS later", camp.pairs(0, 1), 1);
+        camp.state(5, 1);
         camp.person(1, -95, 1);
         Due.is("18: 3 DAYS later", camp.pairs(0, 1), 2);
         camp.state(0, 1);
@@ -120,7 +124,7 @@ public final class ScaleTest {
         camp.state(0, 2);
         Due.is("18: SICK", camp.pairs(0, 1), 2);
         camp.state(2, 3);
-        camp.state(5, 4);
+        camp.state(6, 4);
         Due.is("18: of the other's too", camp.pairs(0, 1), 1);
         Due.is("18: one twice", camp.pairs(0, 0), -1);
         Due.is("18: no such", camp.pairs(0, 3), -1);
@@ -176,6 +180,15 @@ public final class ScaleTest {
         Due.is("19: not all", camp.alike(0, 1), 1);
         camp.state(9, 1);
         Due.is("19: all that are HERE", camp.alike(0, 1), 2);
+        CampCards low = new CampCards();
+        low.house(130, 0);
+        low.house(142, 0);
+        for (int i = 0; i < 4; i++) {
+            low.person(i % 2, 0, i / 2);
+        }
+        low.card(0);
+        low.card(1);
+        Due.is("19: FAR by differences", low.alike(0, 1), 2);
         Due.is("19: one twice", camp.alike(0, 0), -1);
         Due.is("19: no such", camp.alike(0, 4), -1);
         Due.is("19: below", camp.alike(-1, 0), -1);

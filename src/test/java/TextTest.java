@@ -257,6 +257,8 @@ public final class TextTest {
         Due.is("15: later", camp.points(0, 20), 2020);
         Due.rule(camp, "k+o+d+6", 1, 14);
         Due.is("15: letters of DRAW", camp.points(0, 14), 6);
+        Due.rule(camp, "k+o+d", 0, 14);
+        Due.is("15: after a DRAW", camp.draw(0, 20) * 1000 + camp.points(0, 14), 8006);
         camp.days(2);
         Due.rule(camp, "a", 1, 15);
         Due.is("15: 1829 DAYS by 365", camp.points(0, 15), 5);
