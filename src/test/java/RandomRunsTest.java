@@ -73,8 +73,8 @@ public final class RandomRunsTest {
         int odd = random.nextInt(60);
         if (odd == 0) return least - 1;
         if (odd == 1) return most + 1;
-        if (odd == 2) return random.nextInt(8) == 0 ? random.nextBoolean() ? Integer.MIN_VALUE : Integer.MAX_VALUE : least;
-        if (odd == 3) return most;
+        if (odd == 2) return random.nextBoolean() ? Integer.MIN_VALUE : Integer.MAX_VALUE;
+        if (odd == 3) return random.nextBoolean() ? least : most;
         return most < least ? least : least + random.nextInt(most - least + 1);
     }
 

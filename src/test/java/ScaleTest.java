@@ -142,12 +142,17 @@ public final class ScaleTest {
         camp.card(0);
         camp.card(0);
         Due.is("18: nobody", camp.pairs(0, 1), 0);
+        camp.house(1, 0);
+        camp.card(1);
+        camp.person(1, 0, 0);
+        Due.is("18: nobody there", camp.pairs(2, 0), 0);
+        Due.is("18: nobody here", camp.pairs(0, 2), 0);
         Due.is("19: one HOUSE, though nobody", camp.alike(0, 1), 2);
         camp.person(0, -1, 0);
         camp.person(0, -900, 0);
         camp.person(0, -902, 0);
         Due.is("18: each with itself", camp.pairs(0, 1), 3);
-        camp.state(1, 1);
+        camp.state(2, 1);
         Due.is("18: if HERE", camp.pairs(1, 0), 2);
     }
 

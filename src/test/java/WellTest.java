@@ -115,6 +115,9 @@ public final class WellTest {
         Due.is("22: what is left of the HOUR", camp.served(2), 10);
         camp.block(2, 4);
         Due.is("22: another BLOCK's HOUR", camp.served(2), 10);
+        camp.block(2, 20);
+        camp.block(0, 4);
+        Due.is("22: the earliest", camp.served(0), 5);
     }
 
     private static void bestIs(String what, CampCards camp, int... want) {
