@@ -28,9 +28,9 @@ final class Due {
         }
     }
 
-    /** Puts a text on the tape, eight bytes a call at most; answers what the last call answered. */
+    /** Puts a text on the tape, eight bytes a call at most; answers what the last call answered (-1 for no text). */
     static int type(CampCards camp, String text) {
-        int answer = camp.total(9);
+        int answer = -1;
         for (int from = 0; from < text.length(); from += 8) {
             int n = Math.min(8, text.length() - from);
             long bytes = 0;

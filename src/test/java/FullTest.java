@@ -75,10 +75,9 @@ public final class FullTest {
         Due.is("goes", camp.goes(60), 60);
         Due.is("nobody HERE", camp.total(3), 0);
         Due.is("nobody asks", camp.total(8), 0);
-        for (int i = 61; i <= 150; i++) {
+        for (int i = 61; i <= 120; i++) {
             Due.is("state", camp.state(59, i % 3), i);
         }
-        Due.is("one state more", camp.state(0, 0), -6);
         camp.days(999);
         Due.is("SINCE on the last DAY", camp.since(0), 0);
         Due.is("state of the last", camp.stateOf(59, 999), 0);
