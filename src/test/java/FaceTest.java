@@ -18,7 +18,10 @@ public final class FaceTest {
         + " queue(int,boolean) list(int,int) goes(int) count(int,int,int) counted(int,int,int) off(int,int) total(int)";
     private static final String[] BANNED = {"throw\\b", "try\\b", "catch\\b", "synchronized\\b", "assert\\b",
         "static \\{", "->", "::", "System\\.(?!arraycopy)", "Object\\b", "hashCode\\b", "toString\\b", "equals\\b",
-        "\\w*Exact\\b", "volatile\\b", "native\\b", "protected\\b"};
+        "\\w*Exact\\b", "volatile\\b", "native\\b", "protected\\b",
+        "Arrays\\.(?!fill\\b|copyOf\\b|copyOfRange\\b)", "Math\\.(?!abs\\b|max\\b|min\\b|floorDiv\\b|floorMod\\b)"};
+    private static final int LONGEST_METHOD = 60;
+    private static final int MOST_PARAMETERS = 7;
 
     public static void main(String[] args) throws Exception {
         Set<String> due = new TreeSet<>(Set.of(FACE.split(" ")));
@@ -39,6 +42,7 @@ public final class FaceTest {
             fields(one);
             for (Method method : one.getDeclaredMethods()) {
                 Due.so(method + " bears no name of the face", !names.contains(method.getName()));
+                Due.so(method + " takes seven at most", method.getParameterCount() <= MOST_PARAMETERS);
             }
         }
         source(Files.readString(Path.of("src/main/java/CampCards.java")));
@@ -86,7 +90,25 @@ public final class FaceTest {
         while (imports.find()) {
             Due.so("import of " + imports.group(1), imports.group(1).equals("java.util.Arrays"));
         }
+        lengths(text);
         Due.so("no package", !code.contains("package "));
         Due.so("ASCII", text.chars().allMatch(sign -> sign < 128));
+    }
+
+    /** A method begins with a line that ends in ") {" and is a member's by its indent; it ends with the brace below it. */
+    private static void lengths(String text) {
+        String indent = null;
+        int lines = 0;
+        for (String line : text.split("\n")) {
+            lines++;
+            if (indent == null && line.matches("( {4}| {8})(public |private |static |int |void |boolean |long |[A-Z])[^;=]*\\) \\{")) {
+                indent = line.replaceAll("\\S.*", "");
+                lines = 0;
+            } else if (indent != null && line.equals(indent + "}")) {
+                Due.so("a method of " + lines + " lines", lines <= LONGEST_METHOD);
+                indent = null;
+            }
+        }
+        Due.so("each method ends", indent == null);
     }
 }

@@ -68,6 +68,12 @@ public final class RainEdgeTest {
         Due.is("26: the end of the first row: its column", camp.flow(11, 1), 12);
         Due.is("26: the one beside: two columns", camp.flow(10, 1), 24);
         Due.is("26: the first of the second row: its column", camp.flow(12, 1), 11);
+        for (int cell = 0; cell < 144; cell++) {
+            camp.height(cell, 22 - cell % 12 - cell / 12);
+        }
+        Due.is("26: of all CELLS to the last one", camp.flow(143, 1), 144);
+        Due.is("26: of the first CELL", camp.flow(0, 1), 1);
+        Due.is("26: the last column ends with all but one", camp.flow(131, 1) + camp.flow(142, 1), 143);
     }
 
     private static void comesDownFromTheHighest() {
