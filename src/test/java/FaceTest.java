@@ -4,7 +4,10 @@ import java.lang.reflect.Method;
 import java.lang.reflect.Modifier;
 import java.nio.file.Files;
 import java.nio.file.Path;
+import java.util.HashSet;
+import java.util.Map;
 import java.util.Set;
+import java.util.TreeMap;
 import java.util.TreeSet;
 import java.util.regex.Matcher;
 import java.util.regex.Pattern;
@@ -22,6 +25,11 @@ public final class FaceTest {
         "Arrays\\.(?!fill\\b|copyOf\\b|copyOfRange\\b)", "Math\\.(?!abs\\b|max\\b|min\\b|floorDiv\\b|floorMod\\b)"};
     private static final int LONGEST_METHOD = 60;
     private static final int MOST_PARAMETERS = 7;
+    private static final int DEEPEST_CALLS = 8;
+    /** What reads a text calls itself on what stands in brackets, five deep at most: all four are one step of a chain. */
+    private static final Set<String> RECURSION = Set.of("readSum", "readTerm", "readUnit", "readBracket");
+    private static final Pattern METHOD =
+        Pattern.compile("( {4}| {8})(?:public |private |static |int |void |boolean |long |[A-Z])[^;=]*?(\\w+)\\([^;=]*\\) \\{");
 
     public static void main(String[] args) throws Exception {
         Set<String> due = new TreeSet<>(Set.of(FACE.split(" ")));
@@ -97,18 +105,67 @@ public final class FaceTest {
 
     /** A method begins with a line that ends in ") {" and is a member's by its indent; it ends with the brace below it. */
     private static void lengths(String text) {
-        String indent = null;
+        Map<String, String> bodies = new TreeMap<>();
+        String name = null;
+        String end = null;
+        StringBuilder body = new StringBuilder();
         int lines = 0;
         for (String line : text.split("\n")) {
             lines++;
-            if (indent == null && line.matches("( {4}| {8})(public |private |static |int |void |boolean |long |[A-Z])[^;=]*\\) \\{")) {
-                indent = line.replaceAll("\\S.*", "");
+            Matcher begins = METHOD.matcher(line);
+            if (name == null && begins.matches()) {
+                name = begins.group(2);
+                end = begins.group(1) + "}";
+                body.setLength(0);
                 lines = 0;
-            } else if (indent != null && line.equals(indent + "}")) {
-                Due.so("a method of " + lines + " lines", lines <= LONGEST_METHOD);
-                indent = null;
+            } else if (line.equals(end)) {
+                Due.so(name + " has " + lines + " lines", lines <= LONGEST_METHOD);
+                bodies.merge(stepOf(name), body.toString(), String::concat);
+                name = null;
+                end = null;
+            } else {
+                body.append(line).append('\n');
             }
         }
-        Due.so("each method ends", indent == null);
+        Due.so("each method ends", name == null);
+        Due.so("all methods are seen: " + bodies.size(), bodies.size() > 100);
+        depths(bodies);
+    }
+
+    private static String stepOf(String method) {
+        return RECURSION.contains(method) ? "readSum" : method;
+    }
+
+    /** Methods of one name count as one, so a chain may seem longer than it is, never shorter. */
+    private static void depths(Map<String, String> bodies) {
+        Map<String, Set<String>> calls = new TreeMap<>();
+        for (Map.Entry<String, String> one : bodies.entrySet()) {
+            Set<String> called = new TreeSet<>();
+            Matcher call = Pattern.compile("\\b(\\w+)\\(").matcher(one.getValue());
+            while (call.find()) {
+                boolean within = stepOf(call.group(1)).equals(one.getKey()) && RECURSION.contains(call.group(1));
+                if (bodies.containsKey(stepOf(call.group(1))) && !within) {
+                    called.add(stepOf(call.group(1)));
+                }
+            }
+            calls.put(one.getKey(), called);
+        }
+        for (String method : calls.keySet()) {
+            int deep = depth(method, calls, new HashSet<>());
+            Due.so(method + " goes " + deep + " calls deep", deep <= DEEPEST_CALLS);
+        }
+    }
+
+    private static int depth(String method, Map<String, Set<String>> calls, Set<String> open) {
+        if (!open.add(method)) {
+            Due.so(method + " calls itself in a round", false);
+            return 0;
+        }
+        int deepest = 0;
+        for (String called : calls.get(method)) {
+            deepest = Math.max(deepest, depth(called, calls, open));
+        }
+        open.remove(method);
+        return deepest + 1;
     }
 }
